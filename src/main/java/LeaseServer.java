@@ -47,7 +47,7 @@ public final class LeaseServer {
     private static final int EVENT_KINDS = 5;
 
     /** Stands for no event, and is later than every event. */
-    private static final int NEVER = Integer.MAX_VALUE;
+    private static final int NEVER = 0x7fffffff;
 
     /** Far above the events of one advance: 20 clients, a renewal every 4 ticks, and 100 quarantines. */
     private static final int EVENT_BOUND = 1000000;
@@ -466,7 +466,9 @@ public final class LeaseServer {
     }
 
     private static void copyFlags(boolean[] from, boolean[] to) {
-        System.arraycopy(from, 0, to, 0, Math.min(from.length, to.length));
+        for (int place = 0; place < from.length && place < to.length; place++) {
+            to[place] = from[place];
+        }
     }
 
     /** The pools, a place in each row for each number. */
