@@ -977,19 +977,15 @@ public final class LeaseServer {
 
         private void carryOut(int event) {
             int address = addressOfEvent(event);
+            int client = isAddress(address) ? addresses.holder[address] : NONE;
             settings.time = timeOfEvent(event);
-            if (kindOfEvent(event) == QUARANTINE_END) {
-                addresses.becomeFree(address, settings.time);
-            } else if (isAddress(address)) {
-                carryOutForHolder(kindOfEvent(event), addresses.holder[address], address);
-            }
-        }
-
-        private void carryOutForHolder(int kind, int client, int address) {
-            switch (kind) {
+            switch (kindOfEvent(event)) {
                 case OFFER_END:
                     endHolding(client);
                     log.write(OFFER_ENDED, address);
+                    break;
+                case QUARANTINE_END:
+                    addresses.becomeFree(address, settings.time);
                     break;
                 case RENEWAL_TIME:
                     renewOrTurn(client, directUpFor(client), RENEWING);

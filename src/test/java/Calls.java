@@ -53,7 +53,10 @@ final class Calls {
         });
     }
 
-    /** Returns every answer that a call without an effect can give: two equal texts mean two equal states. */
+    /**
+     * Returns every answer that a call without an effect can give, and what is set: two equal texts mean two equal
+     * states, but for what is saved.
+     */
     static String snapshot(Object target) {
         StringBuilder text = new StringBuilder();
         for (String name : new String[] {"time", "poolCount", "bound", "conflicts", "averageRest", "logSize"}) {
@@ -75,7 +78,31 @@ final class Calls {
         for (int index = 0; index < 30; index++) {
             add(text, target, "log(" + index + ")");
         }
+        addSettings(text, target);
         return text.toString();
+    }
+
+    /** What is set can only be read by setting it, so that it is set back at once. */
+    private static void addSettings(StringBuilder text, Object target) {
+        for (String name : new String[] {"setHold", "setQuarantine"}) {
+            addSetting(text, target, name + "(", "10");
+        }
+        for (int group = 0; group < 3; group++) {
+            addSetting(text, target, "setDirect(" + group + ", ", "true");
+            addSetting(text, target, "setRelay(" + group + ", ", "true");
+        }
+        for (int address = 0; address < 100; address++) {
+            addSetting(text, target, "exclude(" + address + ", ", "false");
+            addSetting(text, target, "setStranger(" + address + ", ", "false");
+        }
+    }
+
+    private static void addSetting(StringBuilder text, Object target, String opening, String trial) {
+        String before = answer(target, opening + trial + ")");
+        text.append(opening).append(trial).append(") ").append(before).append('\n');
+        if (before.startsWith("= ")) {
+            answer(target, opening + before.substring(2) + ")");
+        }
     }
 
     private static void addClients(StringBuilder text, Object target) {

@@ -1,5 +1,9 @@
+import java.util.ArrayList;
+import java.util.List;
+
 /**
  * Runs of calls with the answers that are due, a row each: "time() = 0" or "poolOf(5) ! NoSuchElementException".
+ * A row such as "0..9: exclude($, true) = false" stands for one row for each of the numbers, in the place of the $.
  * The rows are carried out on a new LeaseServer and on a new Model, so that the Model is held to them too.
  */
 final class Script {
@@ -10,20 +14,43 @@ final class Script {
     }
 
     static void check(String title, String text) {
-        checkOn(new LeaseServer(), title, text);
-        checkOn(new Model(), title + " (the model)", text);
-    }
-
-    private static void checkOn(Object target, String title, String text) {
-        for (String line : text.split("\n")) {
-            String row = line.strip();
-            if (!row.isEmpty() && !row.startsWith("#")) {
-                checkRow(target, title, row);
-            }
+        for (String fault : faults(new LeaseServer(), text)) {
+            say(title + ": " + fault);
+        }
+        for (String fault : faults(new Model(), text)) {
+            say(title + " (the model): " + fault);
         }
     }
 
-    private static void checkRow(Object target, String title, String row) {
+    /** Carries out the rows on a target, and returns what is wrong. */
+    static List<String> faults(Object target, String text) {
+        List<String> faults = new ArrayList<>();
+        for (String line : text.split("\n")) {
+            String row = line.strip();
+            if (!row.isEmpty() && !row.startsWith("#")) {
+                for (String single : singles(row)) {
+                    checkRow(target, single, faults);
+                }
+            }
+        }
+        return faults;
+    }
+
+    private static List<String> singles(String row) {
+        if (!row.matches("\\d+\\.\\.\\d+: .*")) {
+            return List.of(row);
+        }
+        List<String> singles = new ArrayList<>();
+        int dots = row.indexOf("..");
+        int colon = row.indexOf(": ");
+        int last = Integer.parseInt(row.substring(dots + 2, colon));
+        for (int number = Integer.parseInt(row.substring(0, dots)); number <= last; number++) {
+            singles.add(row.substring(colon + 2).replace("$", "" + number));
+        }
+        return singles;
+    }
+
+    private static void checkRow(Object target, String row, List<String> faults) {
         int end = row.indexOf(')') + 1;
         String call = row.substring(0, end);
         String due = row.substring(end).strip();
@@ -34,10 +61,11 @@ final class Script {
         String before = unchanged ? Calls.snapshot(target) : "";
         String got = Calls.answer(target, call);
         if (!got.equals(due)) {
-            say(title + ": " + call + " answered " + got + ", due is " + due);
+            faults.add(call + " answered " + got + ", due is " + due);
         }
-        if (unchanged && !before.equals(Calls.snapshot(target))) {
-            say(title + ": " + call + " changed " + Calls.difference(before, Calls.snapshot(target)));
+        String after = unchanged ? Calls.snapshot(target) : "";
+        if (!before.equals(after)) {
+            faults.add(call + " changed " + Calls.difference(before, after));
         }
     }
 
