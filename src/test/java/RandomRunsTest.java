@@ -54,9 +54,19 @@ public final class RandomRunsTest {
         return (int) ((seed >>> 33) % end);
     }
 
-    /** Mostly a number of the range, now and then one beside it. */
+    /** Mostly a number of the range, now and then one beside it or far from it. */
     private static int near(int end) {
-        return draw(24) == 0 ? draw(2) == 0 ? -1 - draw(2) : end + draw(2) : draw(end);
+        if (draw(24) > 0) {
+            return draw(end);
+        }
+        switch (draw(6)) {
+            case 0: return Integer.MIN_VALUE;
+            case 1: return Integer.MAX_VALUE;
+            case 2: return -2;
+            case 3: return end + 1;
+            case 4: return end;
+            default: return -1;
+        }
     }
 
     private static String drawnCall(int run) {
