@@ -3,8 +3,13 @@ import java.nio.file.Files;
 import java.nio.file.Path;
 import java.util.ArrayList;
 import java.util.List;
+import java.util.Set;
+import java.util.TreeSet;
 
-/** The sentences of ../shared/DOC.md, each as "heading: sentence"; a row of a list counts as a sentence. */
+/**
+ * What ../shared/DOC.md says: its sentences, each as "heading: sentence", where a row of a list counts as a sentence,
+ * and its public face.
+ */
 final class Document {
     private static final Path FILE = Path.of("..", "shared", "DOC.md");
 
@@ -27,6 +32,19 @@ final class Document {
         }
         document.endParagraph();
         return document.sentences;
+    }
+
+    /** Returns the rows of the face without "public" and the names of parameters: "int pool(int, int) throws ..". */
+    static Set<String> face() throws IOException {
+        Set<String> face = new TreeSet<>();
+        for (String line : Files.readAllLines(FILE)) {
+            String row = line.strip();
+            if (row.startsWith("public ") && row.endsWith(";")) {
+                face.add(row.substring(0, row.length() - 1).replaceFirst("public ", "")
+                    .replaceAll("(int|boolean) \\w+([,)])", "$1$2"));
+            }
+        }
+        return face;
     }
 
     private void readLine(String line) {

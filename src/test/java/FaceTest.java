@@ -1,4 +1,6 @@
+import java.io.IOException;
 import java.lang.reflect.Constructor;
+import java.lang.reflect.Executable;
 import java.lang.reflect.Field;
 import java.lang.reflect.Member;
 import java.lang.reflect.Method;
@@ -6,52 +8,13 @@ import java.lang.reflect.Modifier;
 import java.util.Arrays;
 import java.util.Set;
 import java.util.TreeSet;
+import java.util.stream.Collectors;
 
-/** The public face of the document, and rule 1 of LANGUAGE.md: nothing else can be seen. */
+/** The public face, as the document writes it down, and rule 1 of LANGUAGE.md: nothing else can be seen. */
 public final class FaceTest {
-    private static final String FACE = """
-        boolean exclude(int, boolean)
-        boolean renew(int)
-        boolean setDirect(int, boolean)
-        boolean setRelay(int, boolean)
-        boolean setStranger(int, boolean)
-        double utilization(int)
-        float averageRest()
-        int accept(int)
-        int addPool(int, int, int, int)
-        int addressOf(int)
-        int addressState(int)
-        int advance(int)
-        int advanceToEvent()
-        int bound()
-        int clientState(int)
-        int conflicts()
-        int countState(int, int)
-        int decline(int)
-        int discover(int, int, int)
-        int freeSince(int)
-        int holder(int)
-        int log(int)
-        int logSize()
-        int nextCandidate(int, int)
-        int pool(int, int)
-        int poolCount()
-        int poolOf(int)
-        int release(int)
-        int remembered(int)
-        int removePool(int)
-        int restore()
-        int save()
-        int setHold(int)
-        int setQuarantine(int)
-        int time()
-        int timer(int, int)
-        int until(int)
-        """;
-
     private static int wrong = 0;
 
-    public static void main(String[] args) {
+    public static void main(String[] args) throws IOException {
         Class<?> type = LeaseServer.class;
         check(Modifier.isPublic(type.getModifiers()) && Modifier.isFinal(type.getModifiers()), "public and final");
         Set<String> publicNames = new TreeSet<>();
@@ -64,10 +27,12 @@ public final class FaceTest {
                 hidden(method);
             }
         }
-        check(methods.equals(new TreeSet<>(Arrays.asList(FACE.strip().split("\n")))), "the methods " + methods);
         Constructor<?>[] constructors = type.getDeclaredConstructors();
-        check(constructors.length == 1 && Modifier.isPublic(constructors[0].getModifiers())
-            && constructors[0].getParameterCount() == 0, "the constructor");
+        check(constructors.length == 1 && Modifier.isPublic(constructors[0].getModifiers()), "the constructor");
+        for (Constructor<?> constructor : constructors) {
+            methods.add(text("", constructor));
+        }
+        checkEqual(methods, Document.face());
         for (Field field : type.getDeclaredFields()) {
             hidden(field);
         }
@@ -80,12 +45,29 @@ public final class FaceTest {
         System.exit(wrong == 0 ? 0 : 1);
     }
 
+    /** Writes a method as the document does, but for "public" and the names of the parameters. */
     private static String text(Method method) {
-        String parameters = "";
-        for (Class<?> parameter : method.getParameterTypes()) {
-            parameters += (parameters.isEmpty() ? "" : ", ") + parameter;
+        return text(method.getReturnType() + " ", method);
+    }
+
+    private static String text(String start, Executable method) {
+        String parameters = joined(method.getParameterTypes());
+        String exceptions = joined(method.getExceptionTypes());
+        return start + method.getName() + "(" + parameters + ")" + (exceptions.isEmpty() ? "" : " throws " + exceptions);
+    }
+
+    private static String joined(Class<?>[] types) {
+        return Arrays.stream(types).map(Class::getSimpleName).collect(Collectors.joining(", "));
+    }
+
+    private static void checkEqual(Set<String> methods, Set<String> due) {
+        for (String method : due) {
+            check(methods.contains(method), "there is no " + method);
         }
-        return method.getReturnType() + " " + method.getName() + "(" + parameters + ")";
+        for (String method : methods) {
+            check(due.contains(method), "the document has no " + method);
+        }
+        check(due.size() == 38, "the face in the document has " + due.size() + " rows");
     }
 
     private static void hidden(Member member) {
